@@ -21,23 +21,29 @@ public final class PlatePeas {
     private static final int[] UPPER = {0, 1, 1, 3, 1};
     private static final int[] LOWER = {1, 4, 2, 4, 1};
 
-    private Plate table = new Plate();
+    private Plate table;
     /** A text is read here first, so that one that is not taken changes nothing. */
-    private Plate draft = new Plate();
+    private Plate draft;
     private int lawNow;
     private final int[] pushCodes = new int[MOST_PUSHES];
     private int pushCount;
     private final int[] seenPeas = new int[MOST_READINGS];
     private final int[] seenSquares = new int[MOST_READINGS];
     private int readingCount;
-    private final Spots now = new Spots(table);
-    private final Spots trial = new Spots(table);
-    private final Search search = new Search(table);
+    private final Spots now;
+    private final Spots trial;
+    private final Search search;
     private final Sheet[] sheets = new Sheet[SHEETS];
     private final Trace traced = new Trace();
     private int latestFault;
 
     public PlatePeas() {
+        Plate empty = new Plate();
+        now = new Spots(empty);
+        trial = new Spots(empty);
+        search = new Search(empty);
+        table = empty;
+        draft = new Plate();
         for (int k = 0; k < SHEETS; k++) {
             sheets[k] = new Sheet();
         }
@@ -495,7 +501,7 @@ public final class PlatePeas {
         lawNow = LAW_TURNS;
         pushCount = 0;
         readingCount = 0;
-        replayNow();
+        now.beginOn(table, lawNow);
     }
 
     private void replayNow() {
@@ -699,8 +705,9 @@ public final class PlatePeas {
         private final int[] signs = new int[MOST_SQUARES];
         private final int[] starts = new int[MOST_PEAS];
         private final Fork[] eaters = new Fork[MOST_EATERS];
+        private final int[] letters = new int[MOST_EATERS];
+        private final int[] strengths = new int[MOST_EATERS];
         private int squareCount;
-        private int letter;
 
         boolean isLaid() {
             return eaterCount > 0;
@@ -766,6 +773,9 @@ public final class PlatePeas {
             }
             if (eaterCount == 0 || n != HEAD + rowCodes() + EATER_CODES * eaterCount) {
                 return n;
+            }
+            for (int e = 0; e < eaterCount; e++) {
+                eaters[e] = eaterByLetter(letters[e], e, strengths[e]);
             }
             listCodes();
             return NONE;
@@ -846,7 +856,7 @@ public final class PlatePeas {
                 case 0:
                     return code == ';';
                 case 1:
-                    letter = code;
+                    letters[eaterCount] = code;
                     return code == 'f' || code == 'k' || code == 's';
                 default:
                     return takesStrength(code - '0');
@@ -854,15 +864,15 @@ public final class PlatePeas {
         }
 
         private boolean takesStrength(int strength) {
-            if (strength < 1 || strength > MOST_STRENGTH) {
+            if (eaterCount >= MOST_EATERS || strength < 1 || strength > MOST_STRENGTH) {
                 return false;
             }
-            eaters[eaterCount] = eaterByLetter(eaterCount, strength);
+            strengths[eaterCount] = strength;
             eaterCount++;
             return true;
         }
 
-        private Fork eaterByLetter(int number, int strength) {
+        private static Fork eaterByLetter(int letter, int number, int strength) {
             switch (letter) {
                 case 'k':
                     return new Knife(number, strength);

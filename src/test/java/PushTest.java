@@ -148,6 +148,13 @@ public final class PushTest {
         DUE.is("had", x.where(0), -9);
         x.push(0, 0, 2);
         DUE.is("nothing comes of a push of one that is gone", x.peas(0), 1);
+        x.law(1);
+        DUE.is("nothing comes of it by law 1", x.peas(1), 0);
+        x.law(2);
+        x.push(0, 1, 2);
+        DUE.is("had by law 2", x.peas(0), 3);
+        x.law(1);
+        DUE.is("by law 1 it was off", x.peas(1), 2);
     }
 
     private static void peas() {

@@ -133,6 +133,7 @@ public final class SearchTest {
         DUE.is("two", x.row(0, 2, 0, 2), 1);
         DUE.is("a pea that is gone", x.row(0, 2, 0, 3), -102);
         DUE.is("from 3 on", x.row(0, 2, 3, 1), 1);
+        DUE.is("code 0", x.row(0, 2, 5, 1), 0);
         DUE.is("none", x.row(0, 2, 3, 0), 0);
         DUE.is("nothing is changed", x.many(4), 0);
         DUE.is("nothing is changed", x.peas(0), 0);

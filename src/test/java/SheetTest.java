@@ -118,6 +118,7 @@ public final class SheetTest {
 
     private static void faultsOfCopy() {
         PlatePeas x = new PlatePeas();
+        x.put(0, 0, 0);
         DUE.is("UNKNOWN", x.copy(4, 0, 0, 0, 0), -1);
         DUE.is("UNKNOWN other", x.copy(0, 0, 4, 0, 0), -1);
         DUE.is("UNKNOWN below", x.copy(0, 0, -1, 0, 0), -1);

@@ -1,0 +1,219 @@
+import java.util.Random;
+
+/** Random runs of all calls, right and wrong ones, each answer compared with the model's. */
+public final class RandomRunsTest {
+    private static final Due DUE = new Due("RandomRunsTest");
+    private static final String[] NAMES = {"plate", "sign", "set", "ofEater", "law", "push", "undo", "where", "peas",
+        "would", "fewest", "most", "wall", "row", "odds", "reading", "back", "last", "laws", "never", "sheet", "lose",
+        "put", "cell", "copy", "tell", "polish", "as", "trace", "fault", "many"};
+    /** How many parameters each has. */
+    private static final int[] COUNTS = {4, 1, 2, 2, 1, 3, 1, 1, 1, 4, 2, 1, 3, 4, 3, 2, 1, 1, 0, 0, 3, 1, 3, 3, 5, 1,
+        1, 2, 0, 0, 1};
+    private static final int[] FAR = {-1, -2, -9, -10, 59, 60, 61, 1000, Integer.MAX_VALUE, Integer.MIN_VALUE};
+
+    private final Random random;
+    private final PlatePeas real = new PlatePeas();
+    private final Model model = new Model();
+    private final int run;
+
+    private RandomRunsTest(int run) {
+        this.run = run;
+        this.random = new Random(run);
+    }
+
+    public static void main(String[] args) {
+        for (int run = 0; run < 1500; run++) {
+            new RandomRunsTest(run).go();
+        }
+        DUE.end();
+    }
+
+    private void go() {
+        if (random.nextInt(8) != 0) {
+            lay();
+        }
+        int calls = 150 + random.nextInt(100);
+        for (int k = 0; k < calls; k++) {
+            int choice = random.nextInt(100);
+            if (choice < 15) {
+                same("push", eater(), pea(), random.nextInt(4));
+            } else if (choice < 30) {
+                seenOrCode();
+            } else if (choice == 30) {
+                lay();
+            } else {
+                any();
+            }
+        }
+        all();
+    }
+
+    private void seenOrCode() {
+        switch (random.nextInt(4)) {
+            case 0:
+                int pea = pea();
+                same("reading", pea, real.where(pea));
+                break;
+            case 1:
+                same("set", random.nextInt(20), random.nextInt(3));
+                break;
+            case 2:
+                codes();
+                break;
+            default:
+                same("law", random.nextInt(3));
+        }
+    }
+
+    private void codes() {
+        int n = random.nextInt(8);
+        same("sheet", 2, 1, 22);
+        for (int i = 0; i < n; i++) {
+            same("put", 2, i, 100 * eater() + 10 * pea() + random.nextInt(4));
+        }
+        same("row", 2, 1, 0, n);
+        same("row", 2, 1, random.nextInt(3), random.nextInt(22));
+    }
+
+    private void any() {
+        int which = random.nextInt(NAMES.length);
+        String name = NAMES[which];
+        // The model tries every row of three pushes.
+        boolean dear = name.equals("fewest") || name.equals("most");
+        if (dear && real.many(2) * real.many(3) > 4 && random.nextInt(8) != 0) {
+            return;
+        }
+        int[] numbers = new int[COUNTS[which]];
+        for (int i = 0; i < numbers.length; i++) {
+            numbers[i] = number();
+        }
+        same(name, numbers);
+    }
+
+    private int number() {
+        int choice = random.nextInt(20);
+        if (choice == 0) {
+            return FAR[random.nextInt(FAR.length)];
+        }
+        return choice < 14 ? random.nextInt(3) : choice < 18 ? random.nextInt(7) : random.nextInt(40) - 3;
+    }
+
+    private int eater() {
+        return random.nextInt(Math.max(1, real.many(3)));
+    }
+
+    private int pea() {
+        return random.nextInt(Math.max(1, real.many(2)));
+    }
+
+    private void lay() {
+        StringBuilder text = new StringBuilder("p");
+        int high = 2 + random.nextInt(4);
+        int wide = 2 + random.nextInt(5);
+        text.append(high).append(wide);
+        String signs = random.nextBoolean() ? ".....gmo" : "....go";
+        for (int y = 0; y < high; y++) {
+            text.append(';');
+            for (int x = 0; x < wide; x++) {
+                text.append(signs.charAt(random.nextInt(signs.length())));
+            }
+        }
+        for (int e = random.nextInt(2); e >= 0; e--) {
+            text.append(';').append("fks".charAt(random.nextInt(3))).append(1 + random.nextInt(4));
+        }
+        spoil(text);
+        int lane = random.nextInt(3);
+        same("sheet", 1, lane, text.length());
+        for (int i = 0; i < text.length(); i++) {
+            same("put", 1, i, text.charAt(i));
+        }
+        same("plate", 1, lane, 0, text.length());
+    }
+
+    private void spoil(StringBuilder text) {
+        if (random.nextInt(6) == 0) {
+            text.setCharAt(random.nextInt(text.length()), "p;.gmofks12345678".charAt(random.nextInt(17)));
+        }
+        if (random.nextInt(10) == 0) {
+            text.setLength(random.nextInt(text.length()));
+        }
+        if (random.nextInt(10) == 0) {
+            text.append("p;.gmofks12345678".charAt(random.nextInt(17)));
+        }
+    }
+
+    /** All that can be asked of an object. */
+    private void all() {
+        for (int what = -1; what < 8; what++) {
+            same("many", what);
+            same("peas", what);
+            same("where", what);
+            same("last", what);
+        }
+        for (int c = 0; c < 30; c++) {
+            same("sign", c);
+        }
+        for (int k = 0; k < 4; k++) {
+            for (int i = 0; i < 60; i++) {
+                same("cell", k, i, k % 3);
+            }
+        }
+        for (int e = 0; e < real.many(3); e++) {
+            for (int pea = 0; pea < real.many(2); pea++) {
+                for (int d = 0; d < 4; d++) {
+                    same("wall", e, pea, d);
+                    for (int what = 0; what < 3; what++) {
+                        same("would", e, pea, d, what);
+                    }
+                }
+            }
+        }
+        same("laws");
+        same("never");
+        same("trace");
+        same("fault");
+    }
+
+    private void same(String name, int... a) {
+        long want = model.call(name, a);
+        DUE.is("run " + run + ": " + name + java.util.Arrays.toString(a), call(name, a), want);
+    }
+
+    private long call(String name, int... a) {
+        PlatePeas x = real;
+        switch (name) {
+            case "plate": return x.plate(a[0], a[1], a[2], a[3]);
+            case "sign": return x.sign(a[0]);
+            case "set": return x.set(a[0], a[1]);
+            case "ofEater": return x.ofEater(a[0], a[1]);
+            case "law": return x.law(a[0]);
+            case "push": return x.push(a[0], a[1], a[2]);
+            case "undo": return x.undo(a[0]);
+            case "where": return x.where(a[0]);
+            case "peas": return x.peas(a[0]);
+            case "would": return x.would(a[0], a[1], a[2], a[3]);
+            case "fewest": return x.fewest(a[0], a[1]);
+            case "most": return x.most(a[0]);
+            case "wall": return x.wall(a[0], a[1], a[2]);
+            case "row": return x.row(a[0], a[1], a[2], a[3]);
+            case "odds": return x.odds(a[0], a[1], a[2]);
+            case "reading": return x.reading(a[0], a[1]);
+            case "back": return x.back(a[0]);
+            case "last": return x.last(a[0]);
+            case "laws": return x.laws();
+            case "never": return x.never();
+            case "sheet": return x.sheet(a[0], a[1], a[2]);
+            case "lose": return x.lose(a[0]);
+            case "put": return x.put(a[0], a[1], a[2]);
+            case "cell": return x.cell(a[0], a[1], a[2]);
+            case "copy": return x.copy(a[0], a[1], a[2], a[3], a[4]);
+            case "tell": return x.tell(a[0]);
+            case "polish": return x.polish(a[0]);
+            case "as": return x.as(a[0], a[1]);
+            case "trace": return x.trace();
+            case "fault": return x.fault();
+            case "many": return x.many(a[0]);
+            default: throw new IllegalArgumentException(name);
+        }
+    }
+}
