@@ -60,6 +60,26 @@ final class SearchEdges {
         canNotBe(y, 0);
         // Where there are 30 it is asked what more would do.
         fewestIs(States.pushed30(), 0, 1);
+        fewestOfAll();
+    }
+
+    private void fewestOfAll() {
+        // As many peas and eaters as can be, and no way for any.
+        PlatePeas x = Due.laid("p56;o....o;......;..oo..;......;o.....;s4;k2");
+        for (int pea = 0; pea < 5; pea++) {
+            canNotBe(x, pea);
+        }
+        s.due(x, 0, "most", 3);
+        // By law 2 one in the middle must come to the rim first.
+        PlatePeas y = Due.laid("p33;...;.o.;...;f1");
+        y.law(2);
+        fewestIs(y, 0, 0, 0);
+        // One that is gone is not pushed any more.
+        PlatePeas z = Due.laid("p26;o.....;o.m...;f1");
+        z.law(1);
+        z.push(0, 0, 0);
+        fewestIs(z, 1, 11, 11);
+        canNotBe(z, 0);
     }
 
     private void firstRow() {
@@ -97,6 +117,10 @@ final class SearchEdges {
         for (int n = 0; n < 4; n++) {
             s.due(none, 0, "most", n);
         }
+        PlatePeas middle = Due.laid("p33;...;.o.;...;f1");
+        middle.law(2);
+        s.due(middle, 0, "most", 1);
+        s.due(middle, 1, "most", 2);
         s.part(3, "how many are HAD in all, at most (those that are HAD already, too).");
         x.push(0, 0, 0);
         x.push(0, 3, 1);
