@@ -1,6 +1,10 @@
+import java.util.ArrayList;
+import java.util.Arrays;
+import java.util.Collections;
+import java.util.List;
 import java.util.Random;
 
-/** Random runs of all calls, right and wrong ones, each answer compared with the model's. */
+/** Random runs of 512 calls, right and wrong ones, each answer compared with the model's. */
 public final class RandomRunsTest {
     private static final Due DUE = new Due("RandomRunsTest");
     private static final String[] NAMES = {"plate", "sign", "set", "ofEater", "law", "push", "undo", "where", "peas",
@@ -11,10 +15,14 @@ public final class RandomRunsTest {
         1, 2, 0, 0, 1};
     private static final int[] FAR = {-1, -2, -9, -10, 59, 60, 61, 1000, Integer.MAX_VALUE, Integer.MIN_VALUE};
 
+    /** For so many an object is used: a run has all of them, and no more. */
+    private static final int CALLS = 512;
+
     private final Random random;
     private final PlatePeas real = new PlatePeas();
     private final Model model = new Model();
     private final int run;
+    private int asked;
 
     private RandomRunsTest(int run) {
         this.run = run;
@@ -32,8 +40,8 @@ public final class RandomRunsTest {
         if (random.nextInt(8) != 0) {
             lay();
         }
-        int calls = 150 + random.nextInt(100);
-        for (int k = 0; k < calls; k++) {
+        int busy = 150 + random.nextInt(CALLS - 150);
+        while (asked < busy) {
             int choice = random.nextInt(100);
             if (choice < 15) {
                 same("push", eater(), pea(), random.nextInt(4));
@@ -45,14 +53,15 @@ public final class RandomRunsTest {
                 any();
             }
         }
-        all();
+        askAll();
+        DUE.is("calls of run " + run, asked, CALLS);
     }
 
     private void seenOrCode() {
         switch (random.nextInt(4)) {
             case 0:
                 int pea = pea();
-                same("reading", pea, real.where(pea));
+                same("reading", pea, (int) model.call("where", pea));
                 break;
             case 1:
                 same("set", random.nextInt(20), random.nextInt(3));
@@ -80,7 +89,7 @@ public final class RandomRunsTest {
         String name = NAMES[which];
         // The model tries every row of three pushes.
         boolean dear = name.equals("fewest") || name.equals("most");
-        if (dear && real.many(2) * real.many(3) > 4 && random.nextInt(8) != 0) {
+        if (dear && many(2) * many(3) > 4 && random.nextInt(8) != 0) {
             return;
         }
         int[] numbers = new int[COUNTS[which]];
@@ -99,11 +108,11 @@ public final class RandomRunsTest {
     }
 
     private int eater() {
-        return random.nextInt(Math.max(1, real.many(3)));
+        return random.nextInt(Math.max(1, many(3)));
     }
 
     private int pea() {
-        return random.nextInt(Math.max(1, real.many(2)));
+        return random.nextInt(Math.max(1, many(2)));
     }
 
     private void lay() {
@@ -142,40 +151,40 @@ public final class RandomRunsTest {
         }
     }
 
-    /** All that can be asked of an object. */
-    private void all() {
+    /** What can be asked of an object, in any order, until it has had all its calls. */
+    private void askAll() {
+        List<String> questions = new ArrayList<>();
         for (int what = -1; what < 8; what++) {
-            same("many", what);
-            same("peas", what);
-            same("where", what);
-            same("last", what);
+            questions.addAll(List.of("many " + what, "peas " + what, "where " + what, "last " + what, "most " + what));
         }
         for (int c = 0; c < 30; c++) {
-            same("sign", c);
+            questions.add("sign " + c);
         }
-        for (int k = 0; k < 4; k++) {
-            for (int i = 0; i < 60; i++) {
-                same("cell", k, i, k % 3);
-            }
+        for (int i = 0; i < 60; i++) {
+            questions.addAll(List.of("cell 0 " + i + " 0", "cell 1 " + i + " 1", "cell 2 " + i + " 1", "cell 3 " + i + " 2"));
         }
-        for (int e = 0; e < real.many(3); e++) {
-            for (int pea = 0; pea < real.many(2); pea++) {
-                for (int d = 0; d < 4; d++) {
-                    same("wall", e, pea, d);
-                    for (int what = 0; what < 3; what++) {
-                        same("would", e, pea, d, what);
-                    }
-                }
-            }
+        for (int x = 0; x < 3 * 2 * 5 * 4; x++) {
+            String push = " " + x / 20 % 2 + " " + x / 4 % 5 + " " + x % 4;
+            questions.addAll(List.of("wall" + push, "would" + push + " " + x / 40));
         }
-        same("laws");
-        same("never");
-        same("trace");
-        same("fault");
+        questions.addAll(List.of("laws", "never", "trace", "fault"));
+        Collections.shuffle(questions, random);
+        for (int k = 0; asked < CALLS; k++) {
+            String[] parts = questions.get(k % questions.size()).split(" ");
+            same(parts[0], Arrays.stream(parts).skip(1).mapToInt(Integer::parseInt).toArray());
+        }
+    }
+
+    private int many(int what) {
+        return (int) model.call("many", what);
     }
 
     private void same(String name, int... a) {
+        if (asked == CALLS) {
+            return;
+        }
+        asked++;
         long want = model.call(name, a);
-        DUE.is("run " + run + ": " + name + java.util.Arrays.toString(a), Calls.of(real, name, a), want);
+        DUE.is("run " + run + ": " + Calls.told(name, a), Calls.of(real, name, a), want);
     }
 }

@@ -7,7 +7,7 @@ import java.util.function.Supplier;
 
 /**
  * The document's sentences. A test of an edge begins with the words that it holds to: they must stand in the
- * document, and at the end no word from 'Terms' to 'Promise 32' may be left that no test has named.
+ * document, and at the end no word from its first line to its last may be left that no test has named.
  */
 final class Sentences {
     private static final List<String> NAMING_FAULTS = List.of("plate", "row", "sheet", "put", "cell", "copy", "as");
@@ -41,15 +41,36 @@ final class Sentences {
         if (line.startsWith("## Promise ")) {
             return line.substring(3, line.indexOf(':'));
         }
-        if (line.startsWith("## Terms")) {
-            return "Terms";
+        if (line.startsWith("Ahead of the calls")) {
+            return "Ahead of the calls";
         }
-        return line.startsWith("#") || line.startsWith("Ahead of the calls") ? "" : before;
+        return line.startsWith("## ") ? line.substring(3) : before;
+    }
+
+    /** What a section says, its lines joined by blanks. */
+    String said(String section) {
+        return sections.getOrDefault(section, "");
     }
 
     /** A line without the numbers of parts and without what the face says already. */
     private static String wordsOf(String line) {
         return line.strip().replaceFirst("^==== \\d ", "").replaceFirst("^`[^`]*`: ", "");
+    }
+
+    void whatItIs(String words) {
+        begin("What it is", words);
+    }
+
+    void face(String words) {
+        begin("The public face", words);
+    }
+
+    void ahead(String words) {
+        begin("Ahead of the calls", words);
+    }
+
+    void notPromised(String words) {
+        begin("Not promised", words);
     }
 
     void use(String words) {
@@ -76,7 +97,7 @@ final class Sentences {
     private void begin(String section, String words) {
         closeTest();
         heading = section + ", '" + words + "'";
-        String all = sections.getOrDefault(section, "");
+        String all = said(section);
         due.is(heading + ": the document says so", all.contains(words) ? 1 : 0, 1);
         for (int at = all.indexOf(words); at >= 0; at = all.indexOf(words, at + 1)) {
             for (int i = 0; i < words.length(); i++) {
@@ -128,6 +149,7 @@ final class Sentences {
             String unnamed = left.toString().replaceAll("\\s+", " ").strip();
             due.is(section + ": words that no test names: " + unnamed, unnamed.matches(".*[A-Za-z0-9].*") ? 1 : 0, 0);
         });
-        due.is("use, terms, 5 parts and 32 promises", sections.size(), 39);
+        due.is("what it is, use, face, terms, 5 parts, what is ahead of calls, 32 promises, what is not promised",
+            sections.size(), 43);
     }
 }
